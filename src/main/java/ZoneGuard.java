@@ -458,7 +458,8 @@ public final class ZoneGuard {
         if (sign != (sort == STREAM_SORT ? OPEN : GO)) {
             return STRAY;
         }
-        return openFlow(source, goal, port, sort);
+        int answer = askForFlow(source, goal, port, sort);
+        return answer == PASSED ? openFlow(source, goal, port, sort) : answer;
     }
 
     private int continueFlow(int i, int side, int sign) {
@@ -504,21 +505,6 @@ public final class ZoneGuard {
         }
     }
 
-    private int openFlow(int source, int goal, int port, int sort) {
-        int answer = askForFlow(source, goal, port, sort);
-        if (answer != PASSED) {
-            return answer;
-        }
-        if (state.flows.isFull() && !makeRoom()) {
-            return NO_ROOM;
-        }
-        appendCase(state.flows, source, goal, port, sort);
-        int i = state.flows.size() - 1;
-        state.flows.put(i, ENDED, NONE);
-        state.enterStage(i, sort == STREAM_SORT ? 1 : 6);
-        return PASSED;
-    }
-
     /** Uses up an announcement or asks the rules; the answer is an action. */
     private int askForFlow(int source, int goal, int port, int sort) {
         int announced = state.announcements.rowOfCase(source, goal, port, sort);
@@ -532,6 +518,17 @@ public final class ZoneGuard {
         }
         state.rules.put(r, HITS, state.rules.get(r, HITS) + 1);
         return state.rules.get(r, ACTION);
+    }
+
+    private int openFlow(int source, int goal, int port, int sort) {
+        if (state.flows.isFull() && !makeRoom()) {
+            return NO_ROOM;
+        }
+        appendCase(state.flows, source, goal, port, sort);
+        int i = state.flows.size() - 1;
+        state.flows.put(i, ENDED, NONE);
+        state.enterStage(i, sort == STREAM_SORT ? 1 : 6);
+        return PASSED;
     }
 
     /** Removes the flow that may give way first; answers whether there was one. */

@@ -115,6 +115,8 @@ public final class LettersTest {
         // of equal due times the oldest in stage 1 or 6 gives way, and it does not count as due
         new Run("Promise 17, the oldest gives way").does("rule(0, 1) = 1").does(opens(8)).does("letter(1, 0, 0, 0, 1) = 1;"
                 + "letter(0, 9, 0, 0, 0) = 1; count(1) = 8; flow(0, 1) = 1; flow(1, 1) = 3; flow(7, 1) = 9; count(9) = 0; count(4) = 10");
+        new Run("Promise 17, the first flow gives way").does("rule(0, 1) = 1").does(opens(8)).does("letter(0, 9, 0, 0, 0) = 1; count(1) = 8;"
+                + "flow(0, 1) = 2; flow(7, 1) = 9; letter(1, 0, 0, 0, 0) = 1; flow(0, 1) = 3; flow(7, 0) = 1");
         // a smaller due time comes before age, in stage 6 too
         new Run("Promise 17, the least due time").does("span(6, 3) = 8; rule(0, 1) = 1").does(opens(6))
                 .does("letter(8, 9, 1, 1, 2) = 1; letter(8, 10, 1, 1, 2) = 1; letter(0, 20, 0, 0, 0) = 1; flow(6, 1) = 10; flow(7, 1) = 20;"

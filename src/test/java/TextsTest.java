@@ -83,6 +83,8 @@ public final class TextsTest {
         faults("deny from 1 to 1 src 1 1 dst 1 1 port 1 1 stream to 1;", 49);
         faults("deny from 1 to 1 src 1 1 dst 1 1 port 1 1 single x;", 49);
         faults("denyy;", 0);
+        faults("denya;", 0);
+        faults("denyz;", 0);
         faults("den;", 0);
         faults("deny t 1;", 5);
         faults("deny too 1;", 5);
