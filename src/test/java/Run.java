@@ -1,16 +1,18 @@
-import java.lang.reflect.InvocationTargetException;
-import java.lang.reflect.Method;
+import java.util.ArrayList;
+import java.util.List;
 
 /**
  * A run of calls on one new object, written as the document writes its examples:
- * "rule(0, 1) = 1; sets(0, 7, 3) = 15".
+ * "rule(0, 1) = 1; sets(0, 7, 3) = 15". Its name says which promise and sentence it holds.
  */
 final class Run {
+    private static final int BAD = -2, NO_ERROR = -1;
     private static int checked = 0;
     private static int wrong = 0;
 
     private final String name;
-    private final ZoneGuard guard = new ZoneGuard();
+    private final List<Call> past = new ArrayList<>();
+    private final Subject subject = new Subject();
 
     Run(String name) {
         this.name = name;
@@ -18,9 +20,9 @@ final class Run {
 
     /** Makes the calls and compares every answer with the one behind its '='. */
     Run does(String calls) {
-        for (String call : calls.split(";")) {
-            String[] sides = call.split("=");
-            check(sides[0].trim(), call(sides[0].trim()), Long.parseLong(sides[1].trim()));
+        for (String row : calls.split(";")) {
+            String[] sides = row.split("=");
+            check(sides[0].trim(), makes(Call.written(sides[0])), Long.parseLong(sides[1].trim()));
         }
         return this;
     }
@@ -33,11 +35,70 @@ final class Run {
         return this;
     }
 
-    /** Makes a text the only one, without looking at the answers. */
+    /** Makes each call on a new object with the past of this one, which itself stays as it is. */
+    Run each(String calls) {
+        for (String row : calls.split(";")) {
+            String[] sides = row.split("=");
+            Call call = Call.written(sides[0]);
+            check(call.toString(), new Subject(past).makes(call), Long.parseLong(sides[1].trim()));
+        }
+        return this;
+    }
+
+    /** Makes calls that must fail with this error, and looks that only its count changes. */
+    Run fails(int code, String calls) {
+        for (String row : calls.split(";")) {
+            Call call = Call.written(row);
+            leaves(call.toString(), -2 - code, call);
+            check(call.toString(), makes(call), code);
+        }
+        return this;
+    }
+
+    /** Makes calls that are no errors and must leave everything as it was. */
+    Run asks(String calls) {
+        for (String row : calls.split(";")) {
+            leaves(row.trim(), NO_ERROR, Call.written(row.split("=")[0]));
+            does(row);
+        }
+        return this;
+    }
+
+    /** Makes each call and takes it back, on new objects with the past of this one. */
+    Run undoes(String calls) {
+        each(calls);
+        for (String row : calls.split(";")) {
+            leaves(row.trim() + " and back()", NO_ERROR, Call.written(row.split("=")[0]), Call.of("back"));
+        }
+        return this;
+    }
+
+    /** Looks whether calls leave everything as it was, but for the count of one error. */
+    private void leaves(String what, int counted, Call... calls) {
+        List<Call> more = new ArrayList<>(past);
+        more.addAll(List.of(calls));
+        Twins twins = new Twins(name + ": " + what, List.copyOf(past), more);
+        twins.compare();
+        for (int error = 0; error < 3; error++) {
+            twins.compareCount(error, error == counted ? 1 : 0);
+        }
+    }
+
+    /** Makes a call with the numbers on both sides of a range in place of its '#': all of them must be BAD. */
+    Run beyond(String call, int least, int greatest) {
+        for (int v : new int[] {least - 1, greatest + 1, Integer.MIN_VALUE, Integer.MAX_VALUE}) {
+            fails(BAD, call.replace("#", Integer.toString(v)));
+        }
+        return this;
+    }
+
+    /** Makes a text the only one. */
     Run types(String text) {
-        guard.clear();
+        makes(Call.of("clear"));
+        int n = 0;
         for (char c : text.toCharArray()) {
-            guard.type(c);
+            n++;
+            check("type(" + (int) c + ")", makes(Call.of("type", c)), n);
         }
         return this;
     }
@@ -45,80 +106,21 @@ final class Run {
     /** Reads a text and compares the answer of reads(). */
     Run reads(String text, int due) {
         types(text);
-        check("reads() of \"" + text + "\"", guard.reads(), due);
+        check("reads() of \"" + text + "\"", makes(Call.of("reads")), due);
         return this;
     }
 
     /** Compares the ten numbers and the hits of a rule. */
     Run hasRule(int r, int... due) {
         for (int what = 0; what < due.length; what++) {
-            check("of(" + r + ", " + what + ")", guard.of(r, what), due[what]);
+            check("of(" + r + ", " + what + ")", makes(Call.of("of", r, what)), due[what]);
         }
         return this;
     }
 
-    /** Makes calls that must fail with this error, and looks that only the counts of told change. */
-    Run fails(int code, String calls) {
-        for (String call : calls.split(";")) {
-            String before = seen();
-            int[] told = told();
-            check(call.trim(), call(call.trim()), code);
-            check(call.trim() + " changes nothing", seen().equals(before) ? 1 : 0, 1);
-            for (int what = 0; what < 3; what++) {
-                check(call.trim() + ", then told(" + what + ")", guard.told(what), told[what] + (what == -2 - code ? 1 : 0));
-            }
-        }
-        return this;
-    }
-
-    private int[] told() {
-        return new int[] {guard.told(0), guard.told(1), guard.told(2)};
-    }
-
-    /** All that can be asked without changing anything, but for the counts of errors. */
-    private String seen() {
-        StringBuilder s = new StringBuilder();
-        s.append(guard.told(3)).append(' ').append(guard.told(4));
-        for (int what = 0; what < 10; what++) {
-            s.append(' ').append(guard.count(what));
-        }
-        for (int a = 0; a < 32; a++) {
-            s.append(' ').append(guard.zoneOf(a));
-        }
-        for (int r = 0; r < guard.count(0); r++) {
-            for (int what = 0; what <= 10; what++) {
-                s.append(' ').append(guard.of(r, what));
-            }
-        }
-        for (int i = 0; i < guard.count(1); i++) {
-            for (int what = 0; what <= 6; what++) {
-                s.append(' ').append(guard.flow(i, what));
-            }
-        }
-        for (int what = 0; what <= 6; what++) {
-            s.append(' ').append(guard.change(what));
-        }
-        return s.toString();
-    }
-
-    private long call(String call) {
-        String method = call.substring(0, call.indexOf('('));
-        String inside = call.substring(call.indexOf('(') + 1, call.lastIndexOf(')')).trim();
-        String[] words = inside.isEmpty() ? new String[0] : inside.split(",");
-        Class<?>[] types = new Class<?>[words.length];
-        Object[] arguments = new Object[words.length];
-        for (int k = 0; k < words.length; k++) {
-            types[k] = int.class;
-            arguments[k] = Integer.valueOf(words[k].trim());
-        }
-        try {
-            Method m = ZoneGuard.class.getMethod(method, types);
-            return ((Number) m.invoke(guard, arguments)).longValue();
-        } catch (NoSuchMethodException | IllegalAccessException | InvocationTargetException e) {
-            System.out.println(name + ": " + call + " could not be made: " + e + ", " + e.getCause());
-            wrong++;
-            return Long.MIN_VALUE;
-        }
+    private long makes(Call call) {
+        past.add(call);
+        return subject.makes(call);
     }
 
     private void check(String what, long got, long due) {
