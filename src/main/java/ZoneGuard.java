@@ -982,7 +982,7 @@ public final class ZoneGuard {
     private static final class Text {
         private static final int BLANK = 32, SEMICOLON = 59;
         private static final int REJECT_WORD = 2, FROM = 3, TO = 4, SRC = 5, DST = 6, PORT_WORD = 7,
-                STREAM = 8, SINGLE = 9, WORDS = 10;
+                STREAM = 8, SINGLE = 9, WORDS = SINGLE + 1;
         /** The kinds of parts of a rule; stream and single are one kind. */
         private static final int PARTS = 6;
 

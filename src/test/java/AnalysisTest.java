@@ -24,7 +24,8 @@ public final class AnalysisTest {
         new Run("Promise 11, zones").does("zone(3, 5, 6) = 2; rule(0, 1) = 1; sets(0, 0, 3) = 6; rule(1, 1) = 2; sets(1, 1, 3) = 6;"
                 + "decides(5, 0, 0, 0) = 0; decides(6, 5, 0, 0) = 0; decides(0, 6, 15, 1) = 1; decides(4, 7, 0, 0) = -1;"
                 + "zone(0, 5, 5) = 1; decides(5, 0, 0, 0) = -1; decides(31, 31, 15, 1) = -1; sets(1, 1, 0) = 3; decides(31, 31, 15, 1) = 1");
-        new Run("Promise 11, zones of the first and last address").does("zone(1, 0, 0) = 1; zone(2, 31, 31) = 1; rule(0, 1) = 1; sets(0, 0, 1) = 6; sets(0, 1, 2) = 6;"
+        new Run("Promise 11, zones of the first and last address").does("zone(1, 0, 0) = 1; zone(2, 31, 31) = 1; rule(0, 1) = 1; sets(0, 0, 1) = 6;"
+                + "sets(0, 1, 2) = 6;"
                 + "decides(0, 31, 0, 0) = 0; decides(31, 0, 0, 0) = -1; decides(0, 30, 0, 0) = -1; decides(1, 31, 0, 0) = -1; cases(0, 1) = 32");
         new Run("Promise 11, empty ranges").does("rule(0, 1) = 1; sets(0, 2, 5) = 0; sets(0, 3, 4) = 31; decides(4, 0, 0, 0) = -1;"
                 + "decides(5, 0, 0, 0) = -1; sets(0, 3, 5) = 4; decides(5, 0, 0, 0) = 0; sets(0, 6, 9) = 0; sets(0, 7, 8) = 15;"
@@ -55,13 +56,15 @@ public final class AnalysisTest {
         // the rule stays the one that decides what none behind it fits
         new Run("Promise 13, reject").does("rule(0, 2) = 1; rule(1, 0) = 2; idle(0, 1) = 0; idle(1, 1) = 1; idle(1, 0) = 1;"
                 + "sets(1, 9, 2) = 0; idle(0, 1) = 1; idle(1, 1) = 1; idle(0, 0) = 0; of(0, 9) = 2; told(4) = 3");
-        new Run("Promise 13, the first case alone").does("rule(0, 1) = 1; sets(0, 3, 0) = 31; sets(0, 5, 0) = 31; sets(0, 7, 0) = 15; sets(0, 8, 0) = 2;"
+        new Run("Promise 13, the first case alone").does("rule(0, 1) = 1; sets(0, 3, 0) = 31; sets(0, 5, 0) = 31; sets(0, 7, 0) = 15;"
+                + "sets(0, 8, 0) = 2;"
                 + "idle(0, 0) = 0; idle(0, 1) = 0");
         Run last = new Run("Promise 13, the twelfth rule");
         for (int r = 0; r < 12; r++) {
             last.does("rule(" + r + ", 1) = " + (r + 1) + "; sets(" + r + ", 6, " + r + ") = 0; sets(" + r + ", 7, " + r + ") = 15");
         }
-        last.does("idle(11, 0) = 0; idle(11, 1) = 0; idle(10, 1) = 0; cases(11, 0) = 2048; sets(11, 6, 10) = 11; sets(11, 7, 10) = 11; idle(11, 1) = 1; idle(10, 1) = 1");
+        last.does("idle(11, 0) = 0; idle(11, 1) = 0; idle(10, 1) = 0; cases(11, 0) = 2048; sets(11, 6, 10) = 11; sets(11, 7, 10) = 11;"
+                + "idle(11, 1) = 1; idle(10, 1) = 1");
         new Run("Promise 13, none").fails(BAD, "idle(0, 0)");
     }
 

@@ -170,7 +170,8 @@ public final class LettersTest {
                 + "letter(3, 5, 4, 1, 2) = 1; flow(1, 4) = 6; count(2) = 0");
         // each letter uses one announcement up, the oldest first
         new Run("Promise 18, the oldest").does(denied + "announces(0, 0, 9) = 1; ticks(3) = 1; announces(0, 0, 9) = 2; letter(5, 3, 9, 0, 0) = 1;"
-                + "count(2) = 1; ticks(8) = 1; count(2) = 1; letter(5, 3, 9, 0, 0) = 1; count(2) = 0; letter(5, 3, 9, 0, 4) = 1; letter(5, 3, 9, 0, 0) = 0");
+                + "count(2) = 1; ticks(8) = 1; count(2) = 1; letter(5, 3, 9, 0, 0) = 1; count(2) = 0; letter(5, 3, 9, 0, 4) = 1;"
+                + "letter(5, 3, 9, 0, 0) = 0");
         // a letter of a flow leaves an announcement with the same case alone
         new Run("Promise 18, a flow first").does("rule(0, 1) = 1;" + TO_STAGE[3] + "announces(0, 1, 2) = 1; letter(3, 5, 2, 0, 0) = 3; count(2) = 1;"
                 + "letter(3, 5, 2, 0, 4) = 1; count(2) = 1; drops(0) = 0; letter(3, 5, 2, 0, 0) = 1; count(2) = 0");
@@ -178,7 +179,8 @@ public final class LettersTest {
 
     private static void time() {
         new Run("Promise 19").does("ticks(100) = 0; count(3) = 100; ticks(1) = 0; count(3) = 101").fails(BAD, "ticks(0); ticks(101); ticks(-1)");
-        new Run("Promise 19, flows").does("rule(0, 1) = 1; letter(0, 1, 0, 0, 0) = 1; ticks(2) = 1; letter(0, 2, 0, 0, 0) = 1; letter(0, 3, 0, 1, 2) = 1;"
+        new Run("Promise 19, flows").does("rule(0, 1) = 1; letter(0, 1, 0, 0, 0) = 1; ticks(2) = 1; letter(0, 2, 0, 0, 0) = 1;"
+                + "letter(0, 3, 0, 1, 2) = 1;"
                 + "ticks(2) = 3; ticks(1) = 2; flow(0, 1) = 2; flow(1, 1) = 3; count(9) = 1; ticks(1) = 2; ticks(1) = 1; count(9) = 2;"
                 + "flow(0, 1) = 3; flow(0, 5) = 10; ticks(2) = 1; ticks(1) = 0; count(9) = 3; count(3) = 10");
         new Run("Promise 19, announcements").does("rule(0, 1) = 1;" + TO_STAGE[3] + "announces(0, 0, 1) = 1; ticks(4) = 1; announces(0, 0, 2) = 2;"
@@ -200,7 +202,8 @@ public final class LettersTest {
 
     private static void cutting() {
         new Run("Promise 21").does("cuts() = 0; told(4) = 1; rule(0, 1) = 1; letter(0, 1, 0, 0, 0) = 1; letter(0, 2, 5, 0, 0) = 1;"
-                + "letter(0, 3, 0, 1, 2) = 1; cuts() = 0; rule(0, 2) = 2; sets(0, 6, 5) = 0; cuts() = 1; count(1) = 2; flow(0, 1) = 1; flow(1, 1) = 3;"
+                + "letter(0, 3, 0, 1, 2) = 1; cuts() = 0; rule(0, 2) = 2; sets(0, 6, 5) = 0; cuts() = 1; count(1) = 2; flow(0, 1) = 1;"
+                + "flow(1, 1) = 3;"
                 + "sets(0, 9, 0) = 2; sets(0, 6, 0) = 5; sets(0, 8, 0) = 2; cuts() = 1; flow(0, 1) = 3; count(9) = 0; of(0, 10) = 0; of(1, 10) = 3;"
                 + "sets(0, 9, 1) = 0; drops(1) = 1; cuts() = 1; count(1) = 0");
         // the case of a flow is the opener's, whoever sends
@@ -211,7 +214,8 @@ public final class LettersTest {
 
     private static void askingFlows() {
         Run run = new Run("Promise 22").does("flow(0, 6) = -1; flow(2147483647, 0) = -1; rule(0, 1) = 1;" + TO_STAGE[3]
-                + "ticks(2) = 1; letter(5, 3, 2, 0, 3) = 1; letter(9, 8, 7, 1, 2) = 1; flow(0, 0) = 3; flow(0, 1) = 5; flow(0, 2) = 2; flow(0, 3) = 0;"
+                + "ticks(2) = 1; letter(5, 3, 2, 0, 3) = 1; letter(9, 8, 7, 1, 2) = 1; flow(0, 0) = 3; flow(0, 1) = 5; flow(0, 2) = 2;"
+                + "flow(0, 3) = 0;"
                 + "flow(0, 4) = 4; flow(0, 5) = 12; flow(0, 6) = 1; flow(1, 0) = 9; flow(1, 1) = 8; flow(1, 2) = 7; flow(1, 3) = 1; flow(1, 4) = 6;"
                 + "flow(1, 5) = 10; flow(1, 6) = -1; flow(2, 0) = -1; flow(8, 0) = -1; told(0) = 0");
         run.fails(BAD, "flow(-1, 0); flow(0, -1); flow(0, 7); flow(9, 7); flow(-2147483648, 6)");
@@ -219,7 +223,8 @@ public final class LettersTest {
 
     private static void counts() {
         new Run("Promise 23").does("rule(0, 1) = 1; rule(0, 2) = 2; sets(0, 6, 9) = 0; rule(0, 0) = 3; sets(0, 6, 12) = 0;" + TO_STAGE[3]
-                + "letter(1, 2, 12, 0, 0) = 0; letter(1, 2, 9, 0, 0) = 2; letter(1, 2, 9, 1, 2) = 2; letter(1, 2, 0, 1, 4) = 3; letter(1, 2, 0, 1, 1) = 3;"
+                + "letter(1, 2, 12, 0, 0) = 0; letter(1, 2, 9, 0, 0) = 2; letter(1, 2, 9, 1, 2) = 2; letter(1, 2, 0, 1, 4) = 3;"
+                + "letter(1, 2, 0, 1, 1) = 3;"
                 + "letter(1, 2, 0, 1, 0) = 3; announces(0, 0, 1) = 1; announces(0, 0, 1) = 2; letter(8, 8, 0, 0, 0) = 1; ticks(7) = 1; count(0) = 3;"
                 + "count(1) = 1; count(2) = 2; count(3) = 7; count(4) = 4; count(5) = 1; count(6) = 2; count(7) = 3; count(8) = 0; count(9) = 1")
                 .fails(BAD, "count(-1); count(10)");

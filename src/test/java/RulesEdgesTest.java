@@ -12,6 +12,7 @@ public final class RulesEdgesTest {
         objectsApart();
         zonesAtFirst();
         anyZone();
+        zonesOfTheEnds();
         leastAndGreatest();
         emptyRanges();
         sorts();
@@ -66,7 +67,8 @@ public final class RulesEdgesTest {
     private static void objectsApart() {
         withRules("Promise 1: an object that is used", 12).does("keeps() = 12; zone(5, 0, 31) = 32; span(1, 100) = 5; type(100) = 1; ticks(7) = 0;"
                 + "letter(0, 0, 0, 0, 0) = 1; letter(0, 0, 0, 0, 0) = 3; told(9) = -2");
-        new Run("Promise 1: a new object beside a used one").does("count(0) = 0; takes() = 0; zoneOf(31) = 0; span(1, 1) = 5; told(3) = 0; count(3) = 0;"
+        new Run("Promise 1: a new object beside a used one").does("count(0) = 0; takes() = 0; zoneOf(31) = 0; span(1, 1) = 5; told(3) = 0;"
+                + "count(3) = 0;"
                 + "count(1) = 0; count(4) = 0; count(7) = 0; told(0) = 0; told(4) = 2");
     }
 
@@ -96,6 +98,13 @@ public final class RulesEdgesTest {
                 }
             }
         }
+    }
+
+    private static void zonesOfTheEnds() {
+        new Run("Rules: the zones of the first and the last address").does("zone(1, 0, 0) = 1; zone(2, 31, 31) = 1; rule(0, 1) = 1;"
+                + "sets(0, 0, 1) = 6; sets(0, 1, 2) = 6; decides(0, 31, 0, 0) = 0; decides(0, 30, 0, 0) = -1;"
+                + "decides(1, 31, 0, 0) = -1; decides(31, 0, 0, 0) = -1; cases(0, 1) = 32; letter(0, 31, 0, 0, 0) = 1; letter(0, 30, 0, 0, 0) = 0;"
+                + "cuts() = 0; zone(0, 31, 31) = 1; cuts() = 1");
     }
 
     /** The two ends of a range fit, the numbers beside them don't; and so at the ends of all numbers. */
@@ -129,32 +138,39 @@ public final class RulesEdgesTest {
             String least = "sets(0, " + (2 + 2 * kind) + ", ";
             String greatest = "sets(0, " + (3 + 2 * kind) + ", ";
             Run run = new Run("Rules: 'none fits if a least number is greater than the greatest one'");
-            run.does("rule(0, 1) = 1;" + least + "6) = 0;" + greatest + "6) = " + last + "; cases(0, 1) = " + 32768 / (last + 1) + "; " + decidesAt(kind, 6) + " = 0");
-            run.does(greatest + "5) = 6; cases(0, 1) = 0; cases(0, 0) = 0; idle(0, 0) = 1; idle(0, 1) = 1; all(1) = 0; " + decidesAt(kind, 5) + " = -1;"
+            run.does("rule(0, 1) = 1;" + least + "6) = 0;" + greatest + "6) = " + last + "; cases(0, 1) = " + 32768 / (last + 1) + ";"
+                    + decidesAt(kind, 6) + " = 0");
+            run.does(greatest + "5) = 6; cases(0, 1) = 0; cases(0, 0) = 0; idle(0, 0) = 1; idle(0, 1) = 1; all(1) = 0;"
+                    + decidesAt(kind, 5) + " = -1;"
                     + decidesAt(kind, 6) + " = -1");
-            run.does(least + last + ") = 6;" + greatest + "0) = 5; cases(0, 1) = 0; " + decidesAt(kind, 0) + " = -1;" + decidesAt(kind, last) + " = -1");
+            run.does(least + last + ") = 6;" + greatest + "0) = 5; cases(0, 1) = 0;"
+                    + decidesAt(kind, 0) + " = -1;" + decidesAt(kind, last) + " = -1");
         }
     }
 
     private static void sorts() {
-        new Run("Rules: '8 the sort (0, 1, or 2 for both)'").does("rule(0, 1) = 1; sets(0, 8, 0) = 2; decides(0, 0, 0, 0) = 0; decides(0, 0, 0, 1) = -1;"
+        new Run("Rules: '8 the sort (0, 1, or 2 for both)'").does("rule(0, 1) = 1; sets(0, 8, 0) = 2; decides(0, 0, 0, 0) = 0;"
+                + "decides(0, 0, 0, 1) = -1;"
                 + "cases(0, 1) = 16384; sets(0, 8, 1) = 0; decides(0, 0, 0, 0) = -1; decides(0, 0, 0, 1) = 0; cases(0, 1) = 16384;"
                 + "sets(0, 8, 2) = 1; decides(0, 0, 0, 0) = 0; decides(0, 0, 0, 1) = 0; cases(0, 1) = 32768");
     }
 
     private static void firstThatFits() {
-        withRules("Rules: 'The first rule that fits a case decides it', the twelfth too", 12).does("decides(1, 2, 0, 0) = 0; decides(1, 2, 11, 0) = 11;"
+        withRules("Rules: 'The first rule that fits a case decides it', the twelfth too", 12)
+                .does("decides(1, 2, 0, 0) = 0; decides(1, 2, 11, 0) = 11;"
                 + "decides(1, 2, 12, 0) = -1; sets(10, 7, 11) = 10; decides(1, 2, 11, 0) = 10; sets(0, 7, 15) = 0; decides(1, 2, 11, 0) = 0");
         new Run("Rules: 'its action is the action of the case', for each action").does("rule(0, 0) = 1; rule(1, 1) = 2; letter(1, 2, 0, 0, 0) = 0;"
                 + "sets(0, 9, 2) = 0; letter(1, 2, 0, 0, 0) = 2; sets(0, 9, 1) = 2; sets(1, 9, 0) = 1; letter(1, 2, 0, 0, 0) = 1");
-        new Run("Rules: a source and a goal, 'possibly the same'").does("rule(0, 1) = 1; sets(0, 3, 0) = 31; sets(0, 5, 0) = 31; decides(0, 0, 0, 0) = 0;"
+        new Run("Rules: a source and a goal, 'possibly the same'").does("rule(0, 1) = 1; sets(0, 3, 0) = 31; sets(0, 5, 0) = 31;"
+                + "decides(0, 0, 0, 0) = 0;"
                 + "cases(0, 1) = 32; change(1) = 0; change(2) = 0; letter(0, 0, 0, 0, 0) = 1; flow(0, 0) = 0; flow(0, 1) = 0");
     }
 
     private static void noneFits() {
         new Run("Rules: 'if none fits, the action is deny'").does("letter(0, 1, 2, 0, 0) = 0; count(5) = 1; rule(0, 1) = 1; sets(0, 6, 3) = 0;"
                 + "letter(0, 1, 2, 0, 0) = 0; count(5) = 2; of(0, 10) = 0; letter(0, 1, 3, 0, 0) = 1; of(0, 10) = 1; all(0) = 6144");
-        new Run("Rules: 'if none fits, the action is deny', in an empty list").does("all(0) = 32768; all(1) = 0; all(2) = 0; letter(9, 9, 9, 1, 2) = 0");
+        new Run("Rules: 'if none fits, the action is deny', in an empty list").does("all(0) = 32768; all(1) = 0; all(2) = 0;"
+                + "letter(9, 9, 9, 1, 2) = 0");
     }
 
     // ---- promises 2 and 3
@@ -178,15 +194,18 @@ public final class RulesEdgesTest {
     }
 
     private static void zoneOfAddress() {
-        new Run("Promise 3: 'a: 0 to 31'").does("zone(4, 0, 0) = 1; zone(5, 31, 31) = 1").each("zoneOf(0) = 4; zoneOf(31) = 5; zoneOf(1) = 0; zoneOf(30) = 0")
+        new Run("Promise 3: 'a: 0 to 31'").does("zone(4, 0, 0) = 1; zone(5, 31, 31) = 1").each("zoneOf(0) = 4; zoneOf(31) = 5; zoneOf(1) = 0;"
+                + "zoneOf(30) = 0")
                 .beyond("zoneOf(#)", 0, 31);
     }
 
     // ---- promise 4
 
     private static void ruleNumbers() {
-        new Run("Promise 4: 'at: the number that it gets, 0 to the number of rules', in an empty list").each("rule(0, 1) = 1").beyond("rule(#, 1)", 0, 0);
-        withRules("Promise 4: 'at: .. 0 to the number of rules'", 3).each("rule(0, 2) = 4; rule(2, 2) = 4; rule(3, 2) = 4").beyond("rule(#, 1)", 0, 3);
+        new Run("Promise 4: 'at: the number that it gets, 0 to the number of rules', in an empty list").each("rule(0, 1) = 1")
+                .beyond("rule(#, 1)", 0, 0);
+        withRules("Promise 4: 'at: .. 0 to the number of rules'", 3).each("rule(0, 2) = 4; rule(2, 2) = 4; rule(3, 2) = 4")
+                .beyond("rule(#, 1)", 0, 3);
         withRules("Promise 4: 'the number that it gets', the first", 2).does("rule(0, 2) = 3; of(0, 9) = 2; of(1, 6) = 0; of(2, 6) = 1");
         withRules("Promise 4: 'the number that it gets', between two", 2).does("rule(1, 2) = 3; of(0, 6) = 0; of(1, 9) = 2; of(2, 6) = 1");
         withRules("Promise 4: 'the number that it gets', the last", 2).does("rule(2, 2) = 3; of(0, 6) = 0; of(1, 6) = 1; of(2, 9) = 2");
@@ -200,8 +219,10 @@ public final class RulesEdgesTest {
 
     private static void ruleFull() {
         withRules("Promise 4: 'FULL if there are already 12', the twelfth", 11).each("rule(0, 1) = 12; rule(11, 1) = 12").beyond("rule(#, 0)", 0, 11);
-        withRules("Promise 4: 'FULL if there are already 12'", 12).fails(FULL, "rule(0, 1); rule(5, 1); rule(12, 1)").does("told(2) = 3; count(0) = 12")
-                .fails(BAD, "rule(13, 1); rule(-1, 1); rule(0, 3); rule(12, -1)").does("told(0) = 4; told(2) = 3; drops(11) = 11; rule(11, 1) = 12; rule(12, 1) = -4");
+        withRules("Promise 4: 'FULL if there are already 12'", 12).fails(FULL, "rule(0, 1); rule(5, 1); rule(12, 1)")
+                .does("told(2) = 3; count(0) = 12")
+                .fails(BAD, "rule(13, 1); rule(-1, 1); rule(0, 3); rule(12, -1)").does("told(0) = 4; told(2) = 3; drops(11) = 11; rule(11, 1) = 12;"
+                + "rule(12, 1) = -4");
     }
 
     // ---- promise 5
@@ -256,16 +277,23 @@ public final class RulesEdgesTest {
         for (int r = 0; r < 11; r++) {
             down.does("of(" + r + ", 6) = " + (r + 1));
         }
-        Run up = withRules("Promise 7: 'so that it gets the number to', from 11 to 0", 12).does("moves(11, 0) = 11; of(0, 6) = 11").fails(BAD, "moves(0, 12); moves(12, 0)");
+        Run up = withRules("Promise 7: 'so that it gets the number to', from 11 to 0", 12).does("moves(11, 0) = 11; of(0, 6) = 11")
+                .fails(BAD, "moves(0, 12); moves(12, 0)");
         for (int r = 1; r < 12; r++) {
             up.does("of(" + r + ", 6) = " + (r - 1));
         }
-        withRules("Promise 7: 'Moves a rule, with its hits'", 3).does("letter(0, 1, 1, 0, 0) = 1; moves(1, 2) = 1; of(2, 10) = 1; of(1, 10) = 0; moves(2, 0) = 2;"
+        new Run("Promise 7: 'Moves a rule', all its numbers").does("rule(0, 1) = 1; rule(1, 2) = 2; sets(0, 0, 1) = 6; sets(0, 1, 2) = 6;"
+                + "sets(0, 2, 3) = 0; sets(0, 3, 4) = 31; sets(0, 4, 5) = 0;"
+                + "sets(0, 5, 6) = 31; sets(0, 6, 7) = 0; sets(0, 7, 8) = 15; sets(0, 8, 0) = 2; moves(0, 1) = 0")
+                .hasRule(0, 6, 6, 0, 31, 0, 31, 0, 15, 2, 2, 0).hasRule(1, 1, 2, 3, 4, 5, 6, 7, 8, 0, 1, 0);
+        withRules("Promise 7: 'Moves a rule, with its hits'", 3).does("letter(0, 1, 1, 0, 0) = 1; moves(1, 2) = 1; of(2, 10) = 1; of(1, 10) = 0;"
+                + "moves(2, 0) = 2;"
                 + "of(0, 10) = 1; of(2, 10) = 0; of(0, 6) = 1");
     }
 
     private static void movesNowhere() {
-        withRules("Promise 7: to its own place", 3).does("moves(0, 0) = 0; moves(1, 1) = 1; moves(2, 2) = 2; of(0, 6) = 0; of(1, 6) = 1; of(2, 6) = 2; told(4) = 5");
+        withRules("Promise 7: to its own place", 3).does("moves(0, 0) = 0; moves(1, 1) = 1; moves(2, 2) = 2; of(0, 6) = 0; of(1, 6) = 1;"
+                + "of(2, 6) = 2; told(4) = 5");
     }
 
     // ---- promise 8
@@ -273,11 +301,13 @@ public final class RulesEdgesTest {
     private static void ofNumbers() {
         new Run("Promise 8: 'r: a rule', there is none").beyond("of(#, 0)", 0, -1);
         withRules("Promise 8: 'r: a rule'", 3).each("of(0, 6) = 0; of(2, 6) = 2").beyond("of(#, 6)", 0, 2);
-        withRules("Promise 8: 'what: 0 to 9 as told above, 10 its hits'", 1).each("of(0, 0) = 6; of(0, 9) = 1; of(0, 10) = 0").beyond("of(0, #)", 0, 10);
+        withRules("Promise 8: 'what: 0 to 9 as told above, 10 its hits'", 1).each("of(0, 0) = 6; of(0, 9) = 1; of(0, 10) = 0")
+                .beyond("of(0, #)", 0, 10);
     }
 
     private static void ofHits() {
-        new Run("Promise 8: '10 its hits', many").does("rule(0, 2) = 1; of(0, 10) = 0").repeats(500, "letter(1, 2, 3, 0, 0) = 2").does("of(0, 10) = 500; count(6) = 500");
+        new Run("Promise 8: '10 its hits', many").does("rule(0, 2) = 1; of(0, 10) = 0").repeats(500, "letter(1, 2, 3, 0, 0) = 2")
+                .does("of(0, 10) = 500; count(6) = 500");
     }
 
     // ---- promises 9 and 10
@@ -287,20 +317,27 @@ public final class RulesEdgesTest {
     }
 
     private static void keepsFull() {
-        Run run = withRules("Promise 9: 'Returns the number of rules', twelve", 12).does("letter(0, 1, 11, 0, 0) = 1; keeps() = 12; of(11, 10) = 1; drops(0) = 11; takes() = 12");
+        Run run = withRules("Promise 9: 'Returns the number of rules', twelve", 12).does("letter(0, 1, 11, 0, 0) = 1; keeps() = 12; of(11, 10) = 1;"
+                + "drops(0) = 11; takes() = 12");
         for (int r = 0; r < 12; r++) {
             run.does("of(" + r + ", 6) = " + r + "; of(" + r + ", 10) = 0");
         }
     }
 
     private static void keepsInPlace() {
-        withRules("Promise 9: 'in place of what was kept before', fewer", 12).does("keeps() = 12; reads() = 0; rule(0, 2) = 1; keeps() = 1; takes() = 1; of(0, 9) = 2; count(0) = 1");
-        new Run("Promise 9: 'in place of what was kept before', none").does("rule(0, 1) = 1; keeps() = 1; drops(0) = 0; keeps() = 0; rule(0, 2) = 1; takes() = 0; count(0) = 0");
-        new Run("Promise 9: 'Keeps the rules as they are'").does("rule(0, 1) = 1; keeps() = 1; sets(0, 9, 2) = 1; zone(1, 0, 0) = 1; takes() = 1; of(0, 9) = 1; zoneOf(0) = 1");
+        withRules("Promise 9: 'in place of what was kept before', fewer", 12).does("keeps() = 12; reads() = 0; rule(0, 2) = 1; keeps() = 1;"
+                + "takes() = 1; of(0, 9) = 2; count(0) = 1");
+        new Run("Promise 9: 'in place of what was kept before', none").does("rule(0, 1) = 1; keeps() = 1; drops(0) = 0; keeps() = 0; rule(0, 2) = 1;"
+                + "takes() = 0; count(0) = 0");
+        new Run("Promise 9: 'without their hits'").does("rule(0, 2) = 1; letter(0, 0, 0, 0, 0) = 2; keeps() = 1; of(0, 10) = 1; takes() = 1;"
+                + "of(0, 10) = 0; letter(0, 0, 0, 0, 0) = 2; of(0, 10) = 1");
+        new Run("Promise 9: 'Keeps the rules as they are'").does("rule(0, 1) = 1; keeps() = 1; sets(0, 9, 2) = 1; zone(1, 0, 0) = 1; takes() = 1;"
+                + "of(0, 9) = 1; zoneOf(0) = 1");
     }
 
     private static void takesNeverKept() {
-        new Run("Promise 10: 'by none if rules were never kept'").does("takes() = 0; rule(0, 1) = 1; rule(0, 1) = 2; takes() = 0; count(0) = 0").fails(BAD, "of(0, 0)");
+        new Run("Promise 10: 'by none if rules were never kept'").does("takes() = 0; rule(0, 1) = 1; rule(0, 1) = 2; takes() = 0; count(0) = 0")
+                .fails(BAD, "of(0, 0)");
         new Run("Promise 10: never kept again after back()").does("rule(0, 1) = 1; keeps() = 1; back() = 1; takes() = 0");
     }
 
@@ -309,7 +346,8 @@ public final class RulesEdgesTest {
     }
 
     private static void takesAgain() {
-        new Run("Promise 10: 'with 0 hits', each time").does("rule(0, 2) = 1; keeps() = 1; letter(0, 0, 0, 0, 0) = 2; of(0, 10) = 1; takes() = 1; of(0, 10) = 0;"
+        new Run("Promise 10: 'with 0 hits', each time").does("rule(0, 2) = 1; keeps() = 1; letter(0, 0, 0, 0, 0) = 2; of(0, 10) = 1; takes() = 1;"
+                + "of(0, 10) = 0;"
                 + "letter(0, 0, 0, 0, 0) = 2; takes() = 1; of(0, 10) = 0; count(6) = 2");
     }
 }

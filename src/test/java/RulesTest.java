@@ -91,7 +91,8 @@ public final class RulesTest {
         new Run("Promise 7, same").does(three + "moves(1, 1) = 1; of(0, 6) = 4; of(1, 6) = 5; of(2, 6) = 6; told(4) = 5")
                 .fails(BAD, "moves(-1, 0); moves(3, 0); moves(0, -1); moves(0, 3)");
         Run whole = new Run("Promise 7, whole rules").does("rule(0, 1) = 1; rule(1, 2) = 2; sets(0, 0, 1) = 6; sets(0, 1, 2) = 6; sets(0, 2, 3) = 0;"
-                + "sets(0, 3, 4) = 31; sets(0, 4, 5) = 0; sets(0, 5, 6) = 31; sets(0, 6, 7) = 0; sets(0, 7, 8) = 15; sets(0, 8, 0) = 2; moves(0, 1) = 0");
+                + "sets(0, 3, 4) = 31; sets(0, 4, 5) = 0; sets(0, 5, 6) = 31; sets(0, 6, 7) = 0; sets(0, 7, 8) = 15; sets(0, 8, 0) = 2;"
+                + "moves(0, 1) = 0");
         whole.hasRule(0, 6, 6, 0, 31, 0, 31, 0, 15, 2, 2, 0).hasRule(1, 1, 2, 3, 4, 5, 6, 7, 8, 0, 1, 0);
         new Run("Promise 7, none").fails(BAD, "moves(0, 0)");
     }

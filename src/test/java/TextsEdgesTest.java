@@ -55,35 +55,44 @@ public final class TextsEdgesTest {
     // ---- promises 24 and 25
 
     private static void typeArguments() {
-        new Run("Promise 24: 'c: 0 to 127', in an empty text").each("type(0) = 1; type(127) = 1").beyond("type(#)", 0, 127).fails(BAD, "type(256); type(356); type(-128)").does("told(3) = 0");
-        new Run("Promise 24: 'c: 0 to 127'").types("deny").each("type(0) = 5; type(127) = 5; type(59) = 5").beyond("type(#)", 0, 127).does("told(3) = 4; type(59) = 5; reads() = 1");
+        new Run("Promise 24: 'c: 0 to 127', in an empty text").each("type(0) = 1; type(127) = 1").beyond("type(#)", 0, 127)
+                .fails(BAD, "type(256); type(356); type(-128)").does("told(3) = 0");
+        new Run("Promise 24: 'c: 0 to 127'").types("deny").each("type(0) = 5; type(127) = 5; type(59) = 5").beyond("type(#)", 0, 127)
+                .does("told(3) = 4; type(59) = 5; reads() = 1");
     }
 
     private static void typeFull() {
-        new Run("Promise 24: 'FULL if it already has 120 bytes', the last byte").types(" ".repeat(119)).each("type(32) = 120; type(0) = 120; type(127) = 120").fails(BAD, "type(128); type(-1)");
-        new Run("Promise 24: 'FULL if it already has 120 bytes'").types(" ".repeat(120)).fails(FULL, "type(32); type(0); type(127)").fails(BAD, "type(128); type(-1)")
+        new Run("Promise 24: 'FULL if it already has 120 bytes', the last byte").types(" ".repeat(119))
+                .each("type(32) = 120; type(0) = 120; type(127) = 120").fails(BAD, "type(128); type(-1)");
+        new Run("Promise 24: 'FULL if it already has 120 bytes'").types(" ".repeat(120)).fails(FULL, "type(32); type(0); type(127)")
+                .fails(BAD, "type(128); type(-1)")
                 .does("told(0) = 2; told(2) = 3; told(3) = 120; reads() = 0; clear() = 120; type(100) = 1");
-        new Run("Promise 24: a byte that is refused does not stand in the text").types(" ".repeat(115) + "deny;").does("type(59) = -4; reads() = 1; clear() = 120").types("deny").does("type(200) = -2; type(59) = 5; reads() = 1");
+        new Run("Promise 24: a byte that is refused does not stand in the text").types(" ".repeat(115) + "deny;")
+                .does("type(59) = -4; reads() = 1; clear() = 120").types("deny").does("type(200) = -2; type(59) = 5; reads() = 1");
     }
 
     private static void clearLengths() {
         new Run("Promise 25: 'Returns the length that it had', empty").does("clear() = 0; clear() = 0; told(3) = 0; told(4) = 0");
         new Run("Promise 25: 'Returns the length that it had', one byte").does("type(0) = 1; clear() = 1; told(3) = 0; clear() = 0");
-        new Run("Promise 25: 'Returns the length that it had', full").types("x".repeat(120)).does("clear() = 120; told(3) = 0; clear() = 0; type(120) = 1; reads() = -10; told(2) = 0");
-        new Run("Promise 25: 'Makes the text empty', and nothing of it comes back").types("reject;").does("clear() = 7; reads() = 0").types("deny;").does("reads() = 1; of(0, 9) = 0; told(3) = 5");
+        new Run("Promise 25: 'Returns the length that it had', full").types("x".repeat(120)).does("clear() = 120; told(3) = 0; clear() = 0;"
+                + " type(120) = 1; reads() = -10; told(2) = 0");
+        new Run("Promise 25: 'Makes the text empty', and nothing of it comes back").types("reject;").does("clear() = 7; reads() = 0").types("deny;")
+                .does("reads() = 1; of(0, 9) = 0; told(3) = 5");
         new Run("Promise 25: it is no state that can be taken back").types("deny;").does("clear() = 5; told(4) = 0; back() = -3; told(3) = 0");
     }
 
     // ---- promise 26: how many rules
 
     private static void readsEmpty() {
-        new Run("Texts: 'at most 12 rules (also none)', the empty text").does("reads() = 0; count(0) = 0; told(4) = 1; rule(0, 1) = 1; reads() = 0; count(0) = 0; told(4) = 3; told(3) = 0");
+        new Run("Texts: 'at most 12 rules (also none)', the empty text").does("reads() = 0; count(0) = 0; told(4) = 1; rule(0, 1) = 1; reads() = 0;"
+                + " count(0) = 0; told(4) = 3; told(3) = 0");
         right("'at most 12 rules (also none)', one blank", " ", 0);
         right("'at most 12 rules (also none)', 120 blanks", " ".repeat(120), 0);
     }
 
     private static void readsTwelve() {
-        new Run("Texts: 'at most 12 rules', twelve").reads("deny;".repeat(11) + "reject;", 12).does("of(11, 9) = 2").fails(FULL, "rule(0, 0)").fails(BAD, "of(12, 0)");
+        new Run("Texts: 'at most 12 rules', twelve").reads("deny;".repeat(11) + "reject;", 12).does("of(11, 9) = 2").fails(FULL, "rule(0, 0)")
+                .fails(BAD, "of(12, 0)");
         right("'at most 12 rules', eleven", "deny;".repeat(11), 11);
         right("'at most 12 rules', twelve and blanks behind them", "deny;".repeat(12) + "   ", 12);
     }
@@ -106,7 +115,8 @@ public final class TextsEdgesTest {
     private static void fullBuffer() {
         String long120 = "allow from 1 to 2 src 10 20 dst 11 21 port 10 15 stream;" + "reject single port 12 13 dst 14 15 src 16 17 to 3 from 4;";
         String full = long120 + " ".repeat(120 - long120.length());
-        new Run("Texts: 'a buffer of at most 120 bytes', full of rules").reads(full, 2).hasRule(0, 1, 2, 10, 20, 11, 21, 10, 15, 0, 1, 0).hasRule(1, 4, 3, 16, 17, 14, 15, 12, 13, 1, 2, 0);
+        new Run("Texts: 'a buffer of at most 120 bytes', full of rules")
+                .reads(full, 2).hasRule(0, 1, 2, 10, 20, 11, 21, 10, 15, 0, 1, 0).hasRule(1, 4, 3, 16, 17, 14, 15, 12, 13, 1, 2, 0);
         faulty("a fault at the last byte of 120", " ".repeat(119) + ";", 119);
         faulty("a fault at the last byte of 120", " ".repeat(119) + "d", 119);
         faulty("'the length of the text if it ends too early', 120", " ".repeat(116) + "deny", 120);
@@ -117,7 +127,8 @@ public final class TextsEdgesTest {
 
     private static void actions() {
         String sentence = "'A rule is one of the words deny, allow, reject'";
-        new Run("Texts: " + sentence).reads("deny;", 1).does("of(0, 9) = 0").reads("allow;", 1).does("of(0, 9) = 1").reads("reject;", 1).does("of(0, 9) = 2");
+        new Run("Texts: " + sentence).reads("deny;", 1).does("of(0, 9) = 0").reads("allow;", 1).does("of(0, 9) = 1").reads("reject;", 1)
+                .does("of(0, 9) = 2");
         for (String word : new String[] {"from 1;", "to 1;", "src 1 2;", "dst 1 2;", "port 1 2;", "stream;", "single;", "drop;"}) {
             faulty(sentence + ", not " + word, word, 0);
         }
@@ -132,8 +143,10 @@ public final class TextsEdgesTest {
         for (int k = 0; k < 2; k++) {
             String head = "deny " + words[k] + " ";
             String sentence = "'" + words[k] + " and a zone (0 to 6)'";
-            new Run("Texts: " + sentence).reads(head + "0;", 1).does("of(0, " + k + ") = 0; of(0, " + (1 - k) + ") = 6").reads(head + "5;", 1).does("of(0, " + k + ") = 5")
-                    .reads(head + "6;", 1).does("of(0, " + k + ") = 6").reads(head + "06;", 1).does("of(0, " + k + ") = 6").reads(head + "00;", 1).does("of(0, " + k + ") = 0");
+            new Run("Texts: " + sentence).reads(head + "0;", 1).does("of(0, " + k + ") = 0; of(0, " + (1 - k) + ") = 6").reads(head + "5;", 1)
+                    .does("of(0, " + k + ") = 5")
+                    .reads(head + "6;", 1).does("of(0, " + k + ") = 6").reads(head + "06;", 1).does("of(0, " + k + ") = 6").reads(head + "00;", 1)
+                    .does("of(0, " + k + ") = 0");
             for (String number : new String[] {"7", "07", "9", "10", "60", "99"}) {
                 faulty(sentence, head + number + ";", head.length());
             }
@@ -151,7 +164,8 @@ public final class TextsEdgesTest {
             String sentence = "'" + words[k] + " and two " + (k == 2 ? "ports'" : "addresses'");
             int[][] pairs = {{0, 0}, {0, last}, {last, last}, {last, 0}, {9, 10}, {10, 9}};
             for (int[] pair : pairs) {
-                new Run("Texts: " + sentence).reads(head + pair[0] + " " + pair[1] + ";", 1).does("of(0, " + least + ") = " + pair[0] + "; of(0, " + (least + 1) + ") = " + pair[1]);
+                new Run("Texts: " + sentence).reads(head + pair[0] + " " + pair[1] + ";", 1).does("of(0, " + least + ") = " + pair[0] + ";"
+                        + " of(0, " + (least + 1) + ") = " + pair[1]);
             }
             faulty(sentence + ", the first too great", head + (last + 1) + " 1;", head.length());
             faulty(sentence + ", the second too great", head + "1 " + (last + 1) + ";", head.length() + 2);
@@ -213,7 +227,8 @@ public final class TextsEdgesTest {
     }
 
     private static void oneOrTwoDigits() {
-        new Run("Texts: 'a number has one or two digits'").reads("deny src 7 07 dst 00 31 port 0 09;", 1).hasRule(0, 6, 6, 7, 7, 0, 31, 0, 9, 2, 0, 0);
+        new Run("Texts: 'a number has one or two digits'")
+                .reads("deny src 7 07 dst 00 31 port 0 09;", 1).hasRule(0, 6, 6, 7, 7, 0, 31, 0, 9, 2, 0, 0);
         faulty("'a number has one or two digits', not none", "deny from ;", 10);
         faulty("'a number has one or two digits', not none", "deny src 1 ;", 11);
     }
@@ -235,7 +250,8 @@ public final class TextsEdgesTest {
 
     private static void blanksAnywhere() {
         String sentence = "Texts: 'Blanks (byte 32) may stand anywhere except within a word or number'";
-        new Run(sentence).reads("  allow   from  1   to 2  src  3   4  dst 5  6 port   7  8  stream  ;  deny  ;  ", 2).hasRule(0, 1, 2, 3, 4, 5, 6, 7, 8, 0, 1, 0);
+        new Run(sentence).reads("  allow   from  1   to 2  src  3   4  dst 5  6 port   7  8  stream  ;  deny  ;"
+                + "  ", 2).hasRule(0, 1, 2, 3, 4, 5, 6, 7, 8, 0, 1, 0);
         faulty("no blank within a word", "de ny;", 0);
         faulty("no blank within a word", "deny fr om 1;", 5);
         faulty("no blank within a word", "deny str eam;", 5);
@@ -245,7 +261,8 @@ public final class TextsEdgesTest {
     }
 
     private static void blanksNeeded() {
-        new Run("Texts: 'they are needed only between two words or two numbers'").reads("allow from1to2src3 4dst5 6port7 8stream;deny;", 2).hasRule(0, 1, 2, 3, 4, 5, 6, 7, 8, 0, 1, 0)
+        new Run("Texts: 'they are needed only between two words or two numbers'").reads("allow from1to2src3 4dst5 6port7 8stream;"
+                + "deny;", 2).hasRule(0, 1, 2, 3, 4, 5, 6, 7, 8, 0, 1, 0)
                 .reads("deny stream;allow single to06from0;", 2).hasRule(1, 0, 6, 0, 31, 0, 31, 0, 15, 1, 1, 0);
         faulty("a blank is needed between two words", "denyfrom1;", 0);
         faulty("a blank is needed between two numbers", "deny src12;", 10);
@@ -378,17 +395,22 @@ public final class TextsEdgesTest {
         for (String text : new String[] {"x", "deny", "deny;allow;reject from 9;", ";", "deny;".repeat(13)}) {
             int at = text.equals("deny") ? 4 : text.startsWith("deny;allow") ? 23 : text.length() > 60 ? 60 : 0;
             new Run("Promise 26: '-10 - (the fault) if the text has a fault (this is not counted as an error)'").does(before).types(text)
-                    .asks("reads() = " + fault(at)).does("told(0) = 0; told(1) = 0; told(2) = 0; told(4) = 5; count(0) = 2; of(0, 10) = 1; of(1, 6) = 4");
+                    .asks("reads() = " + fault(at)).does("told(0) = 0; told(1) = 0; told(2) = 0; told(4) = 5; count(0) = 2; of(0, 10) = 1;"
+                    + " of(1, 6) = 4");
         }
-        new Run("States: 'reads (without a fault)' remembers, with a fault it does not").types("deny").does("reads() = -14; told(4) = 0; type(59) = 5; reads() = 1; told(4) = 1; type(59) = 6; reads() = -15; told(4) = 1");
+        new Run("States: 'reads (without a fault)' remembers, with a fault it does not").types("deny")
+                .does("reads() = -14; told(4) = 0; type(59) = 5; reads() = 1; told(4) = 1; type(59) = 6; reads() = -15; told(4) = 1");
     }
 
     private static void readsReplaces() {
-        new Run("Promise 26: 'Replaces the rules by those of the text, with 0 hits'").does("rule(0, 2) = 1; rule(0, 2) = 2; letter(0, 0, 0, 0, 0) = 2; of(0, 10) = 1").reads("reject;", 1)
+        new Run("Promise 26: 'Replaces the rules by those of the text, with 0 hits'")
+                .does("rule(0, 2) = 1; rule(0, 2) = 2; letter(0, 0, 0, 0, 0) = 2; of(0, 10) = 1").reads("reject;", 1)
                 .does("count(0) = 1; of(0, 10) = 0; letter(0, 0, 0, 0, 0) = 2; of(0, 10) = 1; reads() = 1; of(0, 10) = 0");
         new Run("Promise 26: 'Replaces the rules', by none").does("rule(0, 2) = 1; reads() = 0; count(0) = 0").fails(BAD, "of(0, 0)");
-        new Run("Promise 26: 'The text stays.'").reads("deny;", 1).does("told(3) = 5; reads() = 1; told(3) = 5; type(32) = 6; reads() = 1; back() = 2; told(3) = 6; clear() = 6");
+        new Run("Promise 26: 'The text stays.'").reads("deny;", 1).does("told(3) = 5; reads() = 1; told(3) = 5; type(32) = 6; reads() = 1;"
+                + " back() = 2; told(3) = 6; clear() = 6");
         new Run("Promise 26: the kept rules stay").does("rule(0, 1) = 1; keeps() = 1").reads("deny;deny;", 2).does("takes() = 1; of(0, 9) = 1");
-        new Run("Promise 26: flows stay").does("rule(0, 1) = 1; letter(3, 5, 2, 0, 0) = 1").reads("deny;", 1).does("count(1) = 1; letter(5, 3, 2, 0, 1) = 1; cuts() = 1");
+        new Run("Promise 26: flows stay").does("rule(0, 1) = 1; letter(3, 5, 2, 0, 0) = 1").reads("deny;", 1)
+                .does("count(1) = 1; letter(5, 3, 2, 0, 1) = 1; cuts() = 1");
     }
 }

@@ -20,7 +20,8 @@ public final class TextsTest {
     }
 
     private static void faults(String text, int at) {
-        new Run("Promise 26").reads(text, fault(at)).does("count(0) = 0; told(4) = 0; told(0) = 0; told(1) = 0; told(2) = 0; told(3) = " + text.length());
+        new Run("Promise 26").reads(text, fault(at)).does("count(0) = 0; told(4) = 0; told(0) = 0; told(1) = 0; told(2) = 0;"
+                + " told(3) = " + text.length());
     }
 
     private static void typing() {
@@ -34,7 +35,8 @@ public final class TextsTest {
     }
 
     private static void rules() {
-        new Run("Promise 26, none").does("rule(0, 1) = 1; reads() = 0; count(0) = 0; told(4) = 2; rule(0, 1) = 1").reads("   ", 0).does("count(0) = 0");
+        new Run("Promise 26, none").does("rule(0, 1) = 1; reads() = 0; count(0) = 0; told(4) = 2; rule(0, 1) = 1").reads("   ", 0)
+                .does("count(0) = 0");
         new Run("Promise 26, actions").reads("deny;allow;reject;", 3)
                 .hasRule(0, 6, 6, 0, 31, 0, 31, 0, 15, 2, 0, 0)
                 .hasRule(1, 6, 6, 0, 31, 0, 31, 0, 15, 2, 1, 0)
@@ -49,7 +51,8 @@ public final class TextsTest {
                 .reads("deny port 5 7;", 1).hasRule(0, 6, 6, 0, 31, 0, 31, 5, 7, 2, 0)
                 .reads("deny stream;", 1).hasRule(0, 6, 6, 0, 31, 0, 31, 0, 15, 0, 0)
                 .reads("deny single;", 1).hasRule(0, 6, 6, 0, 31, 0, 31, 0, 15, 1, 0);
-        new Run("Promise 26, parts again in the next rule").reads("deny to 1;deny to 2 stream;deny single to 3;", 3).does("of(2, 1) = 3; of(2, 8) = 1; of(1, 8) = 0");
+        new Run("Promise 26, parts again in the next rule").reads("deny to 1;deny to 2 stream;deny single to 3;", 3)
+                .does("of(2, 1) = 3; of(2, 8) = 1; of(1, 8) = 0");
         new Run("Promise 26, two digits").reads("deny from 06 src 00 31 port 09 15;", 1).hasRule(0, 6, 6, 0, 31, 0, 31, 9, 15, 2, 0);
     }
 
@@ -160,7 +163,8 @@ public final class TextsTest {
     }
 
     private static void replacing() {
-        new Run("Promise 26, hits").reads("reject;", 1).does("letter(0, 0, 0, 0, 0) = 2; of(0, 10) = 1; told(4) = 2; reads() = 1; of(0, 10) = 0; told(4) = 3;"
+        new Run("Promise 26, hits").reads("reject;", 1).does("letter(0, 0, 0, 0, 0) = 2; of(0, 10) = 1; told(4) = 2; reads() = 1; of(0, 10) = 0;"
+                + " told(4) = 3;"
                 + "told(3) = 7; back() = 2; of(0, 10) = 1; told(3) = 7; rule(0, 1) = 2; type(59) = 8; reads() = -17; count(0) = 2; of(0, 9) = 1;"
                 + "of(1, 10) = 1; told(4) = 3; told(0) = 0; told(1) = 0; told(2) = 0");
     }
