@@ -1,14 +1,21 @@
 import java.lang.reflect.Method;
-import java.util.HashMap;
+import java.lang.reflect.Modifier;
+import java.util.ArrayList;
+import java.util.List;
 import java.util.Map;
+import java.util.TreeMap;
+import java.util.function.IntSupplier;
 
 /** A call as the document writes it, such as "sets(0, 7, 3)". */
 final class Call {
-    private static final Map<String, Method> METHODS = new HashMap<>();
+    /** By name and in the order of names, so that a chosen number always means the same method. */
+    private static final Map<String, Method> METHODS = new TreeMap<>();
 
     static {
-        for (Method m : ZoneGuard.class.getMethods()) {
-            METHODS.put(m.getName(), m);
+        for (Method m : ZoneGuard.class.getDeclaredMethods()) {
+            if (Modifier.isPublic(m.getModifiers())) {
+                METHODS.put(m.getName(), m);
+            }
         }
     }
 
@@ -41,6 +48,21 @@ final class Call {
             arguments[k] = numbers[k];
         }
         return new Call(text.append(')').toString(), METHODS.get(name), arguments);
+    }
+
+    /** How many methods the class has. */
+    static int methods() {
+        return METHODS.size();
+    }
+
+    /** A call of the method with this number, with arguments that the caller chooses. */
+    static Call anyOf(int number, IntSupplier arguments) {
+        List<String> names = new ArrayList<>(METHODS.keySet());
+        int[] numbers = new int[METHODS.get(names.get(number)).getParameterCount()];
+        for (int k = 0; k < numbers.length; k++) {
+            numbers[k] = arguments.getAsInt();
+        }
+        return of(names.get(number), numbers);
     }
 
     boolean isOf(String name) {

@@ -6,21 +6,52 @@ import java.lang.reflect.Method;
 import java.lang.reflect.Modifier;
 import java.nio.file.Files;
 import java.nio.file.Path;
+import java.util.ArrayList;
+import java.util.List;
 import java.util.Set;
 import java.util.TreeSet;
 import java.util.regex.Pattern;
 
 /** The face of the class, the words that LANGUAGE.md rules out, and the room that calls take. */
 public final class LanguageTest {
-    private static final Set<String> FACE = Set.of("int zone 3", "int zoneOf 1", "int rule 2", "int sets 3", "int drops 1", "int moves 2",
-            "int of 2", "int keeps 0", "int takes 0", "int decides 4", "int cases 2", "int idle 2", "int contradicts 2", "int change 1",
-            "int all 1", "int letter 5", "int announces 3", "int ticks 1", "int span 2", "int cuts 0", "int flow 2", "int count 1",
-            "int type 1", "int clear 0", "int reads 0", "int back 0", "int told 1", "long digest 0");
+    /** 'The public face' of the document, word by word. */
+    private static final String FACE = """
+            public int zone(int z, int a, int b);
+            public int zoneOf(int a);
+            public int rule(int at, int action);
+            public int sets(int r, int what, int v);
+            public int drops(int r);
+            public int moves(int r, int to);
+            public int of(int r, int what);
+            public int keeps();
+            public int takes();
+            public int decides(int source, int goal, int port, int sort);
+            public int cases(int r, int what);
+            public int idle(int r, int what);
+            public int contradicts(int q, int r);
+            public int change(int what);
+            public int all(int a);
+            public int letter(int source, int goal, int port, int sort, int sign);
+            public int announces(int i, int way, int port);
+            public int ticks(int n);
+            public int span(int g, int v);
+            public int cuts();
+            public int flow(int i, int what);
+            public int count(int what);
+            public int type(int c);
+            public int clear();
+            public int reads();
+            public int back();
+            public int told(int what);
+            public long digest();
+            """;
     private static final String[] RULED_OUT = {"throw", "try", "catch", "synchronized", "assert", "import", "new\\s+int\\s*\\[[^\\]]*\\]\\s*\\[\\s*\\]",
         "static\\s*\\{", "->", "::", "Object", "protected", "\\w+Exact", "double", "float", "Random", "nanoTime", "currentTimeMillis"};
 
-    public static void main(String[] args) throws IOException {
+    public static void main(String[] args) throws IOException, ReflectiveOperationException {
         face();
+        constants();
+        shape();
         source();
         room();
         Run.end();
@@ -36,28 +67,65 @@ public final class LanguageTest {
         for (Method m : ZoneGuard.class.getDeclaredMethods()) {
             same(m + " is public or private", Modifier.isPublic(m.getModifiers()) || Modifier.isPrivate(m.getModifiers()));
             if (Modifier.isPublic(m.getModifiers())) {
-                seen.add(m.getReturnType() + " " + m.getName() + " " + m.getParameterCount());
+                seen.add(Modifier.toString(m.getModifiers()) + " " + m.getReturnType() + " " + m.getName() + typesOf(m));
                 names.add(m.getName());
             }
         }
-        same("the public methods are those of the document: " + seen, seen.equals(FACE));
+        Set<String> face = new TreeSet<>();
+        for (String line : FACE.split(";\\s*")) {
+            face.add(line.replaceAll("int \\w+([,)])", "int$1"));
+        }
+        same("The public face: the methods of the document, " + seen + ", due are " + face, seen.equals(face));
         for (Method m : ZoneGuard.class.getDeclaredMethods()) {
             same(m + " bears its own name", Modifier.isPublic(m.getModifiers()) || !names.contains(m.getName()));
         }
-        Set<String> constants = new TreeSet<>();
-        for (Field f : ZoneGuard.class.getDeclaredFields()) {
-            if (!Modifier.isPrivate(f.getModifiers())) {
-                constants.add(Modifier.toString(f.getModifiers()) + " " + f.getType() + " " + f.getName());
-            }
-        }
-        same("the constants are those of the document: " + constants, constants.equals(Set.of("public static final int NONE",
-                "public static final int BAD", "public static final int NO", "public static final int FULL")));
         Constructor<?>[] constructors = ZoneGuard.class.getDeclaredConstructors();
         same("one public constructor without arguments", constructors.length == 1 && Modifier.isPublic(constructors[0].getModifiers())
                 && constructors[0].getParameterCount() == 0);
         same("the class is public and final", Modifier.isPublic(ZoneGuard.class.getModifiers()) && Modifier.isFinal(ZoneGuard.class.getModifiers()));
         for (Class<?> c : ZoneGuard.class.getDeclaredClasses()) {
             same(c + " is static", Modifier.isStatic(c.getModifiers()) && !Modifier.isPublic(c.getModifiers()));
+        }
+    }
+
+    private static String typesOf(Method m) {
+        StringBuilder types = new StringBuilder();
+        for (Class<?> type : m.getParameterTypes()) {
+            types.append(types.length() == 0 ? "" : ", ").append(type);
+        }
+        return "(" + types + ")";
+    }
+
+    private static void constants() throws ReflectiveOperationException {
+        Set<String> constants = new TreeSet<>();
+        for (Field f : ZoneGuard.class.getDeclaredFields()) {
+            if (!Modifier.isPrivate(f.getModifiers())) {
+                constants.add(Modifier.toString(f.getModifiers()) + " " + f.getType() + " " + f.getName() + " = " + f.get(null));
+            }
+        }
+        same("The public face: 'public static final int NONE = -1, BAD = -2, NO = -3, FULL = -4', " + constants,
+                constants.equals(Set.of("public static final int NONE = -1", "public static final int BAD = -2",
+                        "public static final int NO = -3", "public static final int FULL = -4")));
+    }
+
+    /** What LANGUAGE.md (1, 2, 5 and 11) says of all classes, the ones inside too. */
+    private static void shape() {
+        List<Class<?>> classes = new ArrayList<>(List.of(ZoneGuard.class.getDeclaredClasses()));
+        classes.add(ZoneGuard.class);
+        same("at most twelve classes: " + classes, classes.size() <= 12);
+        for (Class<?> c : classes) {
+            int fields = 0;
+            for (Field f : c.getDeclaredFields()) {
+                boolean isStatic = Modifier.isStatic(f.getModifiers());
+                same(f + " is final if it is static", !isStatic || Modifier.isFinal(f.getModifiers()));
+                fields += isStatic ? 0 : 1;
+            }
+            same(c + " has at most twenty fields", fields <= 20);
+            for (Method m : c.getDeclaredMethods()) {
+                same(m + " has at most seven parameters", m.getParameterCount() <= 7);
+                same(m + " bears no name of the face", c == ZoneGuard.class || !FACE.contains(" " + m.getName() + "("));
+            }
+            same(c + " has no class inside but ZoneGuard", c == ZoneGuard.class || c.getDeclaredClasses().length == 0);
         }
     }
 
